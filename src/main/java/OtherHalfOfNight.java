@@ -571,7 +571,6 @@ public final class OtherHalfOfNight {
             kind[ones] = newKind;
             number[ones] = newNumber;
             trouble[ones] = newTrouble;
-            // the place may have been another's, before one went back to an image
             news[ones] = 0;
             ones++;
             return ones - 1;

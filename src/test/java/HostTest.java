@@ -39,6 +39,13 @@ public final class HostTest {
             item(x, sort, sort, 39, 7);
             due.is("anew", x.sheet(sort, sort, 40), 1);
             item(x, sort, sort, 39, 0);
+            Due.row(x, sort, sort, 5, 6, 7);
+            x.sheet(sort, sort, 3);
+            x.image();
+            due.is("who comes by nothing", x.house(sort, sort, 0, 1), 1);
+            due.is("nothing but 0", x.told(0, 7) + x.told(0, 2) + x.told(0, 3), 0);
+            x.back();
+            x.sheet(sort, sort, 40);
         }
         due.is("a row of none", x.sheet(3, 2, 0), 1);
         due.is("it is there", x.cell(3, 0, 0), OUTSIDE);

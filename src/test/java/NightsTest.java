@@ -177,5 +177,11 @@ public final class NightsTest {
         due.is("61 is more than told", y.sleeps(1), NONE);
         y.set(0, 0, 999);
         due.is("in thought night passes 999", y.sleeps(0), 60);
+        OtherHalfOfNight z = Due.ruledBy("yields 0;suits 1;eases 2;");
+        z.wakes(3, 0, 5);
+        // 5, 6, 5, 4, 3, 2, 1, 0: each seventh night a debtor has 1 more
+        due.is("a debtor", z.sleeps(0), 7);
+        z.set(3, 0, 6);
+        due.is("a debtor", z.sleeps(0), 10);
     }
 }

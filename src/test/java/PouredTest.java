@@ -65,6 +65,9 @@ public final class PouredTest {
         OtherHalfOfNight x = new OtherHalfOfNight();
         x.set(5, 3, 0);
         due.is("a cup that wants nothing is full", x.pour(4), 8);
+        x.wakes(0, 0, 1);
+        x.force(Due.text(x, "yields 1;suits taste=2;eases 0;"));
+        due.is("who yields 1 is enough", x.pour(5), 59);
         // of like sets the least as bits: {0} cuts as {0, 1}, and as none
         OtherHalfOfNight y = Due.ruledBy("yields trouble;suits taste=0;eases 1;");
         y.wakes(0, 0, 10);
@@ -91,7 +94,51 @@ public final class PouredTest {
         bests(y, 2, 20, 0, 20, 3, 21);
         y.set(5, 3, 40);
         bests(y, 2, 30, 0, 39, 5, 40);
-        due.is("best in thought: want", y.told(3, 5), 40);
+        y.set(5, 5, 30);
+        y.set(5, 3, 1);
+        y.set(3, 0, 1);
+        // 1 into 5 of 1, 1 into 3 of 29: cup 0 isn't missed, cup 3 is
+        bests(y, 1, 2, 0, 2, 3, 3);
+        y.set(6, 0, 3);
+        y.set(6, 1, 3);
+        y.set(6, 2, 5);
+        y.set(6, 4, 5);
+        y.set(5, 0, 2);
+        y.set(5, 1, 1);
+        y.set(5, 2, 2);
+        y.set(5, 4, 9);
+        y.set(5, 3, 3);
+        y.set(5, 5, 9);
+        // of 3: 0, 1, 3; of 5: 2, 4, 5, with 1 alone
+        bests(y, 1, 7, 2, 7, 0, 8);
+        y.set(5, 3, 40);
+        y.set(5, 0, 40);
+        bests(y, 0, 29, 0, 30, 0, 30);
+        y.set(3, 0, 30);
+        y.set(5, 3, 1);
+        y.set(5, 0, 1);
+        y.set(6, 0, 7);
+        y.set(6, 3, 7);
+        // of 3 just cup 1, of 5 the cups 2, 4, 5
+        bests(y, 1, 21, 0, 21, 1, 22);
+        y.set(5, 3, 40);
+        y.set(6, 3, 3);
+        y.set(5, 1, 2);
+        y.set(6, 2, 7);
+        y.set(6, 4, 7);
+        y.set(5, 5, 30);
+        y.set(5, 2, 0);
+        bests(y, 2, 50, 0, 59, 0, 59);
+        y.set(6, 0, 5);
+        y.set(6, 1, 5);
+        y.set(5, 0, 40);
+        y.set(5, 1, 9);
+        y.set(5, 3, 1);
+        y.set(5, 5, 1);
+        // 30 into 0, 1, 5, where any two are room enough but 1 and 5
+        bests(y, 1, 31, 1, 31, 3, 32);
+        due.is("best in thought: want", y.told(0, 5), 40);
+        y.set(5, 3, 40);
         due.is("best in thought: trouble", y.told(2, 3), 9);
         due.is("what above", y.best(6), BAD);
         due.is("what below", y.best(-1), BAD);
@@ -99,6 +146,11 @@ public final class PouredTest {
 
     private static void promise14Bounds() {
         bests(new OtherHalfOfNight(), NONE, 0, 0, 0, 0, 0);
+        OtherHalfOfNight all = new OtherHalfOfNight();
+        all.wakes(0, 0, 98);
+        bests(all, 0, 0, 0, 50, 0, 61);
+        all.set(5, 0, 11);
+        bests(all, 0, 0, 1, 51, 0, 62);
         OtherHalfOfNight x = Due.ruledBy("yields 99;suits taste=number;eases 1;");
         x.wakes(2, 0, 9);
         x.wakes(0, 1, 9);

@@ -8,6 +8,7 @@ public final class TextsTest {
         promise7();
         promise7IsFull();
         promise7Faults();
+        promise7ReadsNoFurther();
         promise7Open();
         promise7Values();
         promise7Names();
@@ -43,10 +44,24 @@ public final class TextsTest {
         due.is("many blanks", Due.text(x, "\n  yields\n(\n1 ) ;suits 1;eases 0; \n"), 3);
         due.is("a fault", Due.text(x, "yields ; suits 1 ; eases 0 ;"), -107);
         due.is("the tape is empty by a fault, too", x.count(4), 0);
+        due.is("a fault in the last part", Due.text(x, "yields 8 + 1 ; suits 0 ; eases 5 + ;"), -135);
         due.is("no text by a fault", x.count(3), 4);
         due.is("empty", x.text(), -100);
         due.is("the rule stays", x.count(5), 0);
-        due.is("160 bytes", Due.text(x, "yields 1" + " ".repeat(135) + ";suits 1;eases 0;"), 4);
+        due.is("160 bytes", Due.text(x, "yields 3" + " ".repeat(135) + ";suits 1;eases 0;"), 4);
+        x.wakes(0, 0, 9);
+        x.force(3);
+        due.is("nothing of the faults is in what came then", x.told(0, 8), 1);
+        due.is("nothing of the faults is in what came then", x.told(0, 9), 63);
+        due.is("nothing of the faults is in what came then", x.eased(0), 0);
+        x.force(4);
+        due.is("the 160 bytes' yields", x.told(0, 8), 3);
+        due.is("a fault where a text would be kept", Due.text(x, "yields 8 ; suits 0 ; eases 5 - ;"), -131);
+        due.is("a text", Due.text(x, "yields 4 ; suits 0 ; eases 6 ;"), 5);
+        x.force(5);
+        due.is("yields", x.told(0, 8), 4);
+        due.is("suits", x.told(0, 9), 0);
+        due.is("eases", x.eased(0), 6);
     }
 
     private static void promise7IsFull() {
@@ -87,6 +102,12 @@ public final class TextsTest {
         fault("Yields 1 ; suits 1 ; eases 0 ;", 0);
         fault("yields tired ; suits 1 ; eases 0 ;", 7);
         fault("yields night9; suits 1 ; eases 0 ;", 12);
+        fault("yields nightz ; suits 1 ; eases 0 ;", 7);
+        fault("yields vight ; suits 1 ; eases 0 ;", 7);
+        fault("yields - tired ; suits 1 ; eases 0 ;", 9);
+        fault("yields ( tired ) ; suits 1 ; eases 0 ;", 9);
+        fault("yields not tired ; suits 1 ; eases 0 ;", 11);
+        fault("yields 1 ; suits 1 ; eases 0 ; tired", 31);
         fault("yields nights ; suits 1 ; eases 0 ;", 7);
         fault("yields nigh ; suits 1 ; eases 0 ;", 7);
         fault("yields notnight ; suits 1 ; eases 0 ;", 7);
@@ -113,6 +134,14 @@ public final class TextsTest {
 
     private static void stands(String e) {
         due.is("'" + e + "' stands", Due.text(new OtherHalfOfNight(), "yields " + e + ";suits 1;eases 0;"), 1);
+    }
+
+    private static void promise7ReadsNoFurther() {
+        OtherHalfOfNight x = new OtherHalfOfNight();
+        due.is("a long tape", Due.text(x, "yields 1234567 ; suitsandmore"), -107);
+        due.is("a short tape behind it", Due.text(x, "yields 123"), -110);
+        due.is("a long word", Due.text(x, "yields nightly and more"), -107);
+        due.is("a short word behind it", Due.text(x, "yields night"), -112);
     }
 
     private static void promise7Open() {

@@ -96,6 +96,9 @@ public final class ToldTest {
         Due.row(x, 2, 0, 99);
         // 98 and 99 of trouble
         tells(x, 2, 0, NONE, 1 | 2 | 4 | 32, 1023, 2, 98, (1 << 24) - 1, 1, 1);
+        x.force(Due.text(x, "yields trouble;suits 1;eases 0;"));
+        tells(x, 2, 0, 0, 4, 0, 1, 99, 0, 1, 0);
+        x.force(0);
         x.set(0, 0, 999);
         Due.row(x, 2, 2, 99, 99, 99);
         // in thought night passes 999
