@@ -173,7 +173,11 @@ public final class ToldTest {
     }
 
     private static void promise18() {
-        // of seed 1: z is 1103527590, 2524885223 less 2 to the 32nd, 662824084, ...
+        // of seed 1 z is 1103527590, 2524885223, 662824084, 3295386429 modulo 2 to the 32nd: numbers 7, 0, 2, 5
+        int[] byHand = {0, 31, 61, 87, 113};
+        for (int n = 0; n < byHand.length; n++) {
+            due.is("by hand, " + n, eight(5).drawn(1, n), byHand[n]);
+        }
         int[] whose = new int[41];
         int z = 1;
         for (int i = 0; i < 41; i++) {
