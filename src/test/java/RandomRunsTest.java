@@ -2,7 +2,8 @@ import java.util.Random;
 
 /** Runs of calls, drawn by fixed seeds, on the program and on the model: both answer alike. */
 public final class RandomRunsTest {
-    private static final int RUNS = 500, CALLS = 512;
+    // a step is up to ten calls, and of an object just 512 are told
+    private static final int RUNS = 500, CALLS = 500;
     private static final String[] NAMES = {"trouble", "number", "night", "news", "taste", "hour"};
     private static final String[] WORDS = {"trouble", "number", "night", "news", "taste", "hour", "yields", "suits",
         "eases", "or", "and", "not", "(", ")", ";", "+", "-", "*", "<", "=", "0", "12", "1234", "12345", "tired", "#",
